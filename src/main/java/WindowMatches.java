@@ -38,13 +38,10 @@ public final class WindowMatches {
     private final State snapshot = new State();
     private boolean hasSnapshot = false;
     private final History history = new History();
-    private final char[] text = new char[MAX_TEXT];
-    private int textLength = 0;
+    private final Words text = new Words();
     // These are made once and used again by every call, to keep the room of a run small.
-    private final Reader reader = new Reader(text);
     private final Pattern readPattern = new Pattern();
-    private final Line line = new Line();
-    private final Search search = new Search(line);
+    private final Search search = new Search();
 
     public WindowMatches() {
     }
@@ -92,7 +89,7 @@ public final class WindowMatches {
     // ---- patterns
 
     public int addPattern() {
-        int fault = reader.read(textLength, readPattern);
+        int fault = text.readInto(readPattern);
         if (fault != NO_FAULT) {
             return FAULT_BASE - fault;
         }
@@ -130,17 +127,12 @@ public final class WindowMatches {
     // ---- texts
 
     public int type(char character) {
-        if (textLength >= MAX_TEXT) {
-            return FULL;
-        }
-        text[textLength] = character;
-        textLength++;
-        return textLength;
+        return text.append(character);
     }
 
     public int clearText() {
-        int previous = textLength;
-        textLength = 0;
+        int previous = text.length;
+        text.length = 0;
         return previous;
     }
 
@@ -183,12 +175,12 @@ public final class WindowMatches {
             case 2:
                 return now.times[event];
             case 3:
-                line.fillFrom(now);
-                return line.placeOf(event);
+                search.begin(now);
+                return search.line.placeOf(event);
             case 4:
-                line.fillFrom(now);
-                searchAllPatterns();
-                return search.shares[line.placeOf(event)];
+                search.begin(now);
+                search.runAll(now);
+                return search.shareOf(event);
             default:
                 return BAD_VALUE;
         }
@@ -209,13 +201,13 @@ public final class WindowMatches {
             case 3:
                 return asked.plainSteps;
             case 4:
-                searchPattern(asked, NO_RANK, 0);
+                searchFor(asked);
                 return search.matches;
             case 5:
-                searchPattern(asked, NO_RANK, 0);
+                searchFor(asked);
                 return search.sureMatches;
             case 6:
-                searchPattern(asked, NO_RANK, 0);
+                searchFor(asked);
                 return search.branches;
             default:
                 return BAD_VALUE;
@@ -248,7 +240,9 @@ public final class WindowMatches {
         if (rank < 0 || place < 0 || place >= asked.plainSteps) {
             return BAD_VALUE;
         }
-        searchPattern(asked, rank, place);
+        search.begin(now);
+        search.want(rank, place);
+        search.run(asked);
         return search.wantedEvent;
     }
 
@@ -257,9 +251,9 @@ public final class WindowMatches {
         if (error != NO_ERROR) {
             return error;
         }
-        line.fillFrom(now);
-        line.insert(now.events, kind, value, time);
-        return searchAllPatterns();
+        search.begin(now);
+        search.line.insert(now.events, kind, value, time);
+        return search.runAll(now);
     }
 
     public int count(int what) {
@@ -269,8 +263,8 @@ public final class WindowMatches {
             case 1:
                 return now.patternCount;
             case 2:
-                line.fillFrom(now);
-                return searchAllPatterns();
+                search.begin(now);
+                return search.runAll(now);
             case 3:
                 return now.newestTime;
             case 4:
@@ -278,13 +272,13 @@ public final class WindowMatches {
             case 5:
                 return now.lateness;
             case 6:
-                line.fillFrom(now);
-                searchAllPatterns();
+                search.begin(now);
+                search.runAll(now);
                 return search.placesWithoutShare();
             case 7:
                 return history.size;
             case 8:
-                return textLength;
+                return text.length;
             default:
                 return BAD_VALUE;
         }
@@ -309,21 +303,9 @@ public final class WindowMatches {
         return time < now.newestTime - now.lateness ? TOO_LATE : NO_ERROR;
     }
 
-    private void searchPattern(Pattern pattern, int rank, int place) {
-        line.fillFrom(now);
-        search.begin(now, rank, place);
+    private void searchFor(Pattern pattern) {
+        search.begin(now);
         search.run(pattern);
-    }
-
-    /** The line is filled by the caller: ifEvent searches one with an event that is not kept. */
-    private int searchAllPatterns() {
-        search.begin(now, NO_RANK, 0);
-        int sum = 0;
-        for (int i = 0; i < now.patternCount; i++) {
-            search.run(now.patterns[i]);
-            sum += search.matches;
-        }
-        return sum;
     }
 
     private static final class Pattern {
@@ -492,18 +474,22 @@ public final class WindowMatches {
         }
     }
 
-    /** Reads a pattern in words; where it stops short, the place it stopped at is the fault. */
-    private static final class Reader {
-        private final char[] text;
+    /** The text; where reading it stops short, the place it stopped at is the fault. */
+    private static final class Words {
+        private final char[] characters = new char[MAX_TEXT];
         private int length = 0;
         private int at = 0;
 
-        private Reader(char[] text) {
-            this.text = text;
+        private int append(char character) {
+            if (length >= MAX_TEXT) {
+                return FULL;
+            }
+            characters[length] = character;
+            length++;
+            return length;
         }
 
-        private int read(int typedLength, Pattern target) {
-            length = Math.min(typedLength, text.length);
+        private int readInto(Pattern target) {
             at = 0;
             target.clearSteps();
             boolean isWhole = takesWord("within ") && takesWindow(target) && takesWord(" ")
@@ -512,12 +498,12 @@ public final class WindowMatches {
         }
 
         private char next() {
-            return at < length ? text[at] : NO_KIND;
+            return at < length ? characters[at] : NO_KIND;
         }
 
         private boolean takesWord(String word) {
             for (int i = 0; i < word.length(); i++) {
-                if (at >= length || text[at] != word.charAt(i)) {
+                if (at >= length || characters[at] != word.charAt(i)) {
                     return false;
                 }
                 at++;
@@ -527,8 +513,8 @@ public final class WindowMatches {
 
         private boolean takesWindow(Pattern target) {
             int window = 0;
-            while (at < length && isWithin(text[at], '0', '9')) {
-                int longer = window * 10 + (text[at] - '0');
+            while (at < length && isWithin(characters[at], '0', '9')) {
+                int longer = window * 10 + (characters[at] - '0');
                 if (!isWithin(longer, 1, MAX_WINDOW)) {
                     return false;
                 }
@@ -546,7 +532,7 @@ public final class WindowMatches {
                 return takesWord("rising ");
             }
             // An "a" alone may be the kind of the first step as well.
-            if (next() == 'a' && at + 1 < length && text[at + 1] == 'l') {
+            if (next() == 'a' && at + 1 < length && characters[at + 1] == 'l') {
                 target.rule = RULE_ALIKE;
                 return takesWord("alike ");
             }
@@ -587,7 +573,7 @@ public final class WindowMatches {
         }
     }
 
-    /** The events in their order; one more than are kept, for ifEvent. */
+    /** The events in their order; there is room for one more than are kept, for ifEvent. */
     private static final class Line {
         private static final int ROOM = MAX_EVENTS + 1;
 
@@ -638,7 +624,7 @@ public final class WindowMatches {
 
     /** Walks the choices that begin a match, each ahead of its longer ones, so matches come in their order. */
     private static final class Search {
-        private final Line line;
+        private final Line line = new Line();
         private int newestTime = 0;
         private int watermark = 0;
         private int wantedRank = NO_RANK;
@@ -655,19 +641,29 @@ public final class WindowMatches {
         private int branches = 0;
         private final int[] shares = new int[Line.ROOM];
 
-        private Search(Line line) {
-            this.line = line;
-        }
-
-        private void begin(State state, int rank, int place) {
+        private void begin(State state) {
+            line.fillFrom(state);
             newestTime = state.newestTime;
             watermark = state.watermark();
-            wantedRank = rank;
-            wantedPlace = place;
+            wantedRank = NO_RANK;
             wantedEvent = NONE;
             for (int i = 0; i < Line.ROOM; i++) {
                 shares[i] = 0;
             }
+        }
+
+        private void want(int rank, int place) {
+            wantedRank = rank;
+            wantedPlace = place;
+        }
+
+        private int runAll(State state) {
+            int sum = 0;
+            for (int i = 0; i < state.patternCount; i++) {
+                run(state.patterns[i]);
+                sum += matches;
+            }
+            return sum;
         }
 
         private void run(Pattern pattern) {
@@ -751,6 +747,10 @@ public final class WindowMatches {
                 wantedEvent = line.numbers[chosen[wantedPlace]];
             }
             matches++;
+        }
+
+        private int shareOf(int event) {
+            return shares[line.placeOf(event)];
         }
 
         private int placesWithoutShare() {
