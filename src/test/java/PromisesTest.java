@@ -55,7 +55,7 @@ public final class PromisesTest {
     private void newObject() {
         WindowMatches x = new WindowMatches();
         int[] counts = {0, 0, 0, 0, 0, 20, 0, 0, 0};
-        dueCounts("new", x, counts);
+        check.dueCounts("new", x, counts);
         check.due("eventOf of a new one", x.eventOf(0, 0), UNKNOWN);
         check.due("pattern of a new one", x.pattern(0, 0), UNKNOWN);
         check.due("undo of a new one", x.undo(), NONE);
@@ -63,7 +63,7 @@ public final class PromisesTest {
         WindowMatches other = new WindowMatches();
         Check.send(other, "a1@1");
         Check.add(other, "within 5 a, b");
-        dueCounts("new, beside another", x, counts);
+        check.dueCounts("new, beside another", x, counts);
     }
 
     private void event() {
@@ -348,7 +348,7 @@ public final class PromisesTest {
         Check.send(x, "c3@70");
         x.setLateness(4);
         check.due("restore", x.restore(), 2);
-        dueCounts("restored", x, new int[] {2, 1, 0, 60, 57, 3, 2, 4, 13});
+        check.dueCounts("restored", x, new int[] {2, 1, 0, 60, 57, 3, 2, 4, 13});
         check.due("the window", x.pattern(0, 0), 7);
         check.due("the first event", x.eventOf(0, 0), 'a');
         x.setWindow(0, 10);
@@ -598,7 +598,7 @@ public final class PromisesTest {
         Check.add(x, "within 10 a, b");
         Check.add(x, "within 10 a, c");
         Check.send(x, "a0@100 b0@110 c0@111 a0@120 b0@115");
-        dueCounts("counts", x, new int[] {5, 2, 1, 120, 100, 20, 3, 4, 14});
+        check.dueCounts("counts", x, new int[] {5, 2, 1, 120, 100, 20, 3, 4, 14});
         check.due("what -1", x.count(-1), BAD_VALUE);
         check.due("what 9", x.count(9), BAD_VALUE);
         check.due("least what", x.count(LEAST), BAD_VALUE);
@@ -627,13 +627,7 @@ public final class PromisesTest {
         x.setWindow(0, 10);
         x.setWindow(0, 0);
         x.restore();
-        dueCounts("after errors", x, counts);
+        check.dueCounts("after errors", x, counts);
         check.due("the window", x.pattern(0, 0), 10);
-    }
-
-    private void dueCounts(String when, WindowMatches x, int[] want) {
-        for (int what = 0; what < want.length; what++) {
-            check.due(when + ": count " + what, x.count(what), want[what]);
-        }
     }
 }
